@@ -354,17 +354,14 @@ public final class PauseRegions {
             return i >= 0 && i < length ? items[i] : NONE;
         }
 
-        boolean holds(int item) {
+        /** Whether it was not in the row yet. */
+        boolean append(int item) {
             for (int i = 0; i < length; i++) {
                 if (items[i] == item) {
-                    return true;
+                    return false;
                 }
             }
-            return false;
-        }
-
-        boolean append(int item) {
-            if (length >= THINGS || holds(item)) {
+            if (length >= THINGS) {
                 return false;
             }
             items[length] = item;
@@ -533,10 +530,8 @@ public final class PauseRegions {
                 cell[t] = 0;
                 return;
             }
-            if (r != latestYoung) {
-                kind[r] = YOUNG;
-                latestYoung = r;
-            }
+            kind[r] = YOUNG;
+            latestYoung = r;
             layAtTop(t, r);
         }
 

@@ -1,7 +1,7 @@
 /** Counts the answers of a test that are not as due, and ends the test by its exit code. */
 final class Expect {
     private String part = "";
-    private int asked = 0;
+    private long asked = 0;
     private int wrong = 0;
 
     /** Names what the answers that follow are about. */

@@ -22,6 +22,7 @@ public final class PromisesTest {
         pausesCopy();
         pausesScan();
         pausesStay();
+        pausesOneByOne();
         pausesOld();
         pausesBesideMarking();
         undo();
@@ -69,8 +70,11 @@ public final class PromisesTest {
         on("2 makes: behind a pause in a region of its own").says(
             "makes(1, 0) = 0; pauses(0) = 11; thing(0, 1) = 1; makes(1, 1) = 1; thing(1, 1) = 0; thing(1, 2) = 0",
             "region(0, 0) = 1; region(1, 0) = 2; region(1, 1) = 1");
+        on("2 makes: never in an old region").says(
+            "makes(8, 5) = 0; makes(1, 0) = 1; sets(5, -1) = 0; begins() = 1; steps(1) = 0; pauses(0) = 11",
+            "thing(1, 1) = 0; region(0, 1) = 1; makes(1, 1) = 0; thing(0, 1) = 1; thing(0, 2) = 0; region(0, 0) = 2");
         on("2 makes: a number used again has no fields of its own").says(
-            "makes(1, 0) = 0; makes(1, 1) = 1; writes(1, 0, 0) = 0; writes(1, 1, 1) = 0; sets(1, -1) = 1",
+            "makes(1, 0) = 0; makes(1, 1) = 1; writes(1, 0, 0) = 0; writes(1, 1, 0) = 0; sets(1, -1) = 1",
             "pauses(0) = 11; thing(1, 0) = NONE; makes(2, 1) = 1; thing(1, 0) = 2; thing(1, 3) = NIL; thing(1, 4) = NIL");
         on("2 makes: black beside marking").says(
             "makes(1, 0) = 0; begins() = 1; makes(1, 1) = 1; makes(9, 2) = 2; thing(1, 5) = 2; thing(2, 5) = 2",
@@ -92,6 +96,9 @@ public final class PromisesTest {
             "makes(8, 0) = 0; makes(8, 1) = 1; makes(8, 2) = 2; makes(8, 3) = 3; sets(1, -1) = 1; begins() = 3",
             "steps(32) = 0; region(1, 0) = 0; makes(9, 1) = 1; thing(1, 1) = 4; makes(8, 4) = 4; thing(4, 1) = 1",
             "makes(24, 5) = 5; thing(5, 1) = 6; makes(4, 5) = 6; thing(6, 1) = 9");
+        on("2 makes: a big one lies from cell 0 on, whatever had its number").says(
+            "makes(1, 0) = 0; makes(1, 1) = 1; thing(1, 2) = 1; sets(1, -1) = 1; pauses(0) = 11; makes(8, 1) = 1",
+            "thing(1, 2) = 0; thing(1, 1) = 0");
         on("2 makes: four cells are small, five are big").says(
             "makes(4, 0) = 0; region(0, 0) = 1; makes(5, 1) = 1; region(1, 0) = 3; makes(4, 2) = 2; thing(2, 1) = 0");
     }
@@ -212,6 +219,12 @@ public final class PromisesTest {
             "region(7, 4) = 0; region(2, 0) = 0; region(3, 0) = 0; region(4, 0) = 0; region(4, 1) = 0; region(5, 0) = 3",
             "region(5, 2) = NONE; remembers(5, 4) = 0; count(3) = 0; thing(3, 0) = NONE; thing(2, 0) = NONE",
             "thing(1, 0) = 2; thing(5, 0) = 1; thing(5, 3) = NIL; thing(5, 4) = 0; region(0, 0) = 1; region(0, 2) = NONE");
+        on("8 steps: rests at the upper end become free, too").says(
+            "makes(24, 0) = 0; makes(24, 1) = 1; makes(16, 2) = 2; makes(16, 3) = 3; count(1) = 0; sets(3, -1) = 3",
+            "begins() = 3; steps(3) = 0; region(8, 0) = 0; region(9, 0) = 0; region(7, 0) = 4; count(1) = 2");
+        on("8 steps: no card of a region that became free is dirty").says(
+            "makes(4, 0) = 0; makes(4, 1) = 1; makes(1, 2) = 2; pauses(0) = 19; dirty(0) = 4; dirty(1) = 5; dirty(2) = 6",
+            "sets(0, -1) = 0; sets(1, -1) = 1; begins() = 1; steps(1) = 0; dirty(0) = 6; count(3) = 1");
         on("8 steps: live is known anew as marking ends again").says(
             "makes(4, 0) = 0; makes(2, 1) = 1; pauses(0) = 16; begins() = 2; steps(2) = 0; region(1, 2) = 6",
             "sets(1, -1) = 1; region(1, 2) = 6; begins() = 1; region(1, 2) = 6; steps(1) = 0; region(1, 2) = 4");
@@ -275,6 +288,15 @@ public final class PromisesTest {
             "thing(3, 0) = NONE; thing(5, 0) = NONE; thing(4, 1) = 9; thing(4, 2) = 2; region(9, 0) = 2",
             "region(9, 1) = 7; region(9, 3) = 1; dirty(0) = 18; dirty(1) = NONE; makes(1, 0) = FULL; begins() = 4",
             "steps(4) = 0; region(9, 2) = 4; chooses(14) = 0; chooses(15) = 512; pauses(15) = 15; region(9, 2) = NONE; chooses(999) = 0");
+    }
+
+    private static void pausesOneByOne() {
+        on("9 pauses: what stayed in one pause may be no more in the next").says(
+            "makes(24, 5) = 0; makes(24, 4) = 1; makes(24, 3) = 2; makes(2, 0) = 3; pauses(0) = 15; thing(3, 1) = 9",
+            "sets(0, -1) = 3; begins() = 3; steps(3) = 0; region(9, 0) = 0; makes(2, 0) = 3; region(9, 0) = 1",
+            "sets(0, -1) = 3; pauses(0) = 10; thing(3, 0) = NONE; region(9, 0) = 0");
+        threeOldRegions("9 pauses: what was found in old regions does not tell of yield").says(
+            "makes(4, 1) = 6; sets(1, -1) = 6; chooses(17) = 9; pauses(17) = 14; learnt(0) = 100; learnt(1) = 46");
     }
 
     private static void pausesOld() {
@@ -407,7 +429,8 @@ public final class PromisesTest {
     private static void rubbish() {
         on("21 rubbish").says("rubbish(-1) = BAD; rubbish(2) = BAD; rubbish(MIN) = BAD; rubbish(MAX) = BAD",
             "makes(1, 0) = 0; makes(2, 1) = 1; makes(3, 2) = 2; makes(17, 3) = 3; writes(1, 1, 2) = 0; writes(2, 0, 1) = 0",
-            "rubbish(0) = 0; sets(2, -1) = 2; rubbish(0) = 0; sets(1, -1) = 1; rubbish(0) = 2; rubbish(1) = 5",
+            "rubbish(0) = 0; sets(2, -1) = 2; rubbish(0) = 0; sets(4, 1) = NIL; takes(4, 4, 1) = 2; sets(1, -1) = 1",
+            "rubbish(0) = 0; sets(4, -1) = 2; rubbish(0) = 2; rubbish(1) = 5",
             "sets(3, -1) = 3; rubbish(0) = 3; rubbish(1) = 22; pauses(0) = 11; rubbish(0) = 1; rubbish(1) = 17",
             "begins() = 1; steps(1) = 0; rubbish(0) = 0; rubbish(1) = 0");
     }
@@ -415,8 +438,8 @@ public final class PromisesTest {
     private static void way() {
         on("22 way: the first has the lowest number").says(
             "makes(1, 0) = 0; makes(1, 1) = 1; makes(1, 2) = 2; makes(1, 3) = 3; writes(1, 0, 3) = 0; writes(0, 1, 3) = 0",
-            "writes(3, 0, 2) = 0; sets(2, -1) = 2; sets(3, -1) = 3; sets(4, 0) = NIL; sets(0, 1) = 0",
-            "way(2, -1) = 3; way(2, 0) = 0; way(2, 1) = 3; way(2, 2) = 2; way(2, 3) = NONE; way(2, MAX) = NONE",
+            "writes(3, 0, 2) = 0; sets(2, -1) = 2; sets(3, -1) = 3; way(2, 0) = 0; way(2, -1) = 3",
+            "sets(4, 0) = NIL; sets(0, 1) = 0; way(2, -1) = 3; way(2, 0) = 0; way(2, 1) = 3; way(2, 2) = 2; way(2, 3) = NONE; way(2, MAX) = NONE",
             "way(0, -1) = 1; way(0, 0) = 0; way(0, 1) = NONE; way(3, -1) = 2; way(3, 0) = 0; way(3, 1) = 3");
         on("22 way: then the second").says(
             "makes(1, 0) = 0; makes(1, 1) = 1; makes(1, 2) = 2; makes(1, 3) = 3; writes(0, 0, 2) = 0; writes(0, 1, 1) = 0",
@@ -425,7 +448,8 @@ public final class PromisesTest {
         on("22 way: the fewest, be their numbers as they are").says(
             "makes(1, 0) = 0; makes(1, 1) = 1; makes(1, 2) = 2; makes(1, 3) = 3; writes(0, 0, 1) = 0; writes(1, 0, 2) = 0",
             "writes(3, 1, 2) = 0; writes(2, 0, 2) = 0; writes(2, 1, 0) = 0; sets(1, -1) = 1; sets(2, -1) = 2",
-            "way(2, -1) = 2; way(2, 0) = 3; way(2, 1) = 2; way(0, -1) = 1; sets(0, -1) = 0; way(0, -1) = 3",
+            "way(2, -1) = 2; way(2, 0) = 3; way(2, 1) = 2; way(0, -1) = 1",
+            "sets(5, 0) = NIL; sets(0, -1) = 0; way(2, 0) = 3; sets(5, -1) = 0; way(0, -1) = 3",
             "way(0, 0) = 3; way(0, 1) = 2; way(0, 2) = 0; way(1, -1) = 4; way(1, 3) = 1");
         on("22 way: not reached, and refused").says(
             "way(0, -1) = BAD; way(0, 0) = BAD; way(-1, 0) = BAD; way(32, 0) = BAD; way(MAX, 0) = BAD; way(MIN, 0) = BAD",
