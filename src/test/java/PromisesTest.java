@@ -35,6 +35,7 @@ public final class PromisesTest {
         way();
         images();
         count();
+        lastOfAllCalls();
         EXPECT.end();
     }
 
@@ -477,5 +478,14 @@ public final class PromisesTest {
             "steps(4) = 0; count(4) = 0; count(5) = 0; count(6) = 0; count(7) = NONE; pauses(50) = 21; count(6) = 1",
             "count(7) = 21; count(2) = 0; count(3) = 3; count(1) = 5; pauses(50) = 10; count(6) = 2; count(7) = 10",
             "count(8) = 6; undo() = 5; count(8) = 5");
+    }
+
+    /** An object is used for at most 512 calls: the last ones are answered as the first. */
+    private static void lastOfAllCalls() {
+        Script s = on("the 512th call");
+        for (int call = 1; call <= 504; call++) {
+            s.says("pauses(0) = 10");
+        }
+        s.says("count(6) = 504; undo() = 5; undo() = 4; undo() = 3; undo() = 2; undo() = 1; undo() = 0; count(6) = 498");
     }
 }
