@@ -228,7 +228,7 @@ public final class PauseRegions {
         reach.findReached(heap);
         int sum = 0;
         for (int t = 0; t < THINGS; t++) {
-            if (heap.isThere(t) && !reach.reached[t]) {
+            if (heap.isThere(t) && !hasBit(reach.reached, t)) {
                 sum += what == 0 ? 1 : heap.size[t];
             }
         }
@@ -759,14 +759,14 @@ public final class PauseRegions {
     private static final class Pause {
         final Choice choice = new Choice();
         final Row found = new Row();
-        final boolean[] stayed = new boolean[THINGS];
         int target;
-        /** As bits. */
+        /** CARDS, as bits. */
         int scanned;
+        /** THINGS, as bits. */
+        int stayed;
         int foundCells;
         int foundYoungCells;
         int copiedCells;
-        int stayedCount;
 
         /** Its COST. */
         int run(Heap heap, int goal) {
@@ -783,13 +783,12 @@ public final class PauseRegions {
 
         void forgetLast() {
             found.length = 0;
-            Arrays.fill(stayed, false);
             target = NONE;
             scanned = 0;
+            stayed = 0;
             foundCells = 0;
             foundYoungCells = 0;
             copiedCells = 0;
-            stayedCount = 0;
         }
 
         void find(Heap heap, int t) {
@@ -806,7 +805,7 @@ public final class PauseRegions {
             for (int r = 0; r < ROOTS; r++) {
                 find(heap, heap.roots[r]);
             }
-            for (int i = 0; i < heap.greyThings.length; i++) {
+            for (int i = 0; i < THINGS && i < heap.greyThings.length; i++) {
                 find(heap, heap.greyThings.itemAt(i));
             }
         }
@@ -854,8 +853,7 @@ public final class PauseRegions {
             if (!heap.hasRoom(target, heap.size[t])) {
                 int free = heap.freeRow(1);
                 if (free == NONE) {
-                    stayed[t] = true;
-                    stayedCount++;
+                    stayed |= 1 << t;
                     return;
                 }
                 heap.kind[free] = OLD;
@@ -866,7 +864,7 @@ public final class PauseRegions {
         }
 
         void dirtyMoved(Heap heap) {
-            for (int i = 0; i < found.length; i++) {
+            for (int i = 0; i < THINGS && i < found.length; i++) {
                 heap.dirtyCards.append(heap.cardOfThing(found.itemAt(i)));
             }
             for (int card = 0; card < CARDS; card++) {
@@ -887,7 +885,7 @@ public final class PauseRegions {
 
         void sweep(Heap heap, int r) {
             for (int t = 0; t < THINGS; t++) {
-                if (heap.isIn(t, r) && !stayed[t]) {
+                if (heap.isIn(t, r) && !hasBit(stayed, t)) {
                     heap.endThing(t);
                 }
             }
@@ -900,7 +898,7 @@ public final class PauseRegions {
         }
 
         int tellCost(Heap heap) {
-            int work = copiedCells + 2 * Integer.bitCount(scanned) + 5 * stayedCount;
+            int work = copiedCells + 2 * Integer.bitCount(scanned) + 5 * Integer.bitCount(stayed);
             if (foundCells > 0) {
                 heap.rate = 0.75f * heap.rate + 0.25f * ((float) work / (float) foundCells);
             }
@@ -915,13 +913,14 @@ public final class PauseRegions {
 
     /** Who is REACHED, and by which WAY; it changes nothing in the heap. */
     private static final class Reach {
-        final boolean[] reached = new boolean[THINGS];
+        /** As bits. */
+        int reached;
         /** How many THINGS lead from each THING to the one measured to, both counted; 0: none do. */
         final int[] far = new int[THINGS];
         final Row waiting = new Row();
 
         void findReached(Heap heap) {
-            Arrays.fill(reached, false);
+            reached = 0;
             waiting.length = 0;
             for (int r = 0; r < ROOTS; r++) {
                 enter(heap.roots[r]);
@@ -934,9 +933,8 @@ public final class PauseRegions {
         }
 
         void enter(int t) {
-            if (t != NIL && !reached[t]) {
-                reached[t] = true;
-                waiting.append(t);
+            if (t != NIL && waiting.append(t)) {
+                reached |= 1 << t;
             }
         }
 

@@ -12,7 +12,7 @@ public final class BreaksTest {
 
     public static void main(String[] args) throws IOException {
         Expect expect = new Expect();
-        String source = plain(Files.readString(Path.of("src/main/java/PauseRegions.java")));
+        String source = BrokenCopy.plain(Files.readString(Path.of("src/main/java/PauseRegions.java")));
         List<Outcome> outcomes = Boundary.readAll().parallelStream()
             .flatMap(boundary -> boundary.breaks().stream().map(change -> tryBreak(boundary, change, source)))
             .toList();
@@ -35,11 +35,6 @@ public final class BreaksTest {
         }
         boolean fails = boundary.wrongAnswers(broken, Expect.silent()) > 0;
         return new Outcome(copy, fails ? AS_DUE : "the case does not fail");
-    }
-
-    /** Without remarks and line ends, so that a break may reach over several lines. */
-    private static String plain(String source) {
-        return Boundary.flat(source.replaceAll("//.*", "").replaceAll("(?s)/\\*.*?\\*/", ""));
     }
 
     private static int timesIn(String text, String part) {

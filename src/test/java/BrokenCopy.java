@@ -21,6 +21,11 @@ final class BrokenCopy extends ClassLoader {
         super(BrokenCopy.class.getClassLoader());
     }
 
+    /** The text without remarks and line ends, so that a change may reach over several lines. */
+    static String plain(String source) {
+        return Boundary.flat(source.replaceAll("//.*", "").replaceAll("(?s)/\\*.*?\\*/", ""));
+    }
+
     /** The class, or null if it does not compile. */
     static Class<?> of(String source) {
         BrokenCopy copy = new BrokenCopy();
@@ -57,7 +62,8 @@ final class BrokenCopy extends ClassLoader {
         return defineClass(name, bytes.toByteArray(), 0, bytes.size());
     }
 
-    private static final class Source extends SimpleJavaFileObject {
+    /** The text of the class, not from a file. */
+    static final class Source extends SimpleJavaFileObject {
         private final String text;
 
         Source(String text) {

@@ -2,63 +2,63 @@ import java.io.IOException;
 import java.nio.file.Files;
 import java.nio.file.Path;
 import java.util.List;
-import java.util.regex.Matcher;
-import java.util.regex.Pattern;
 
-/** Those rules of ../shared/LANGUAGE.md that can be seen in the text of the class; it is run from the project's folder. */
+/**
+ * The class keeps to ../shared/LANGUAGE.md, as far as Rules can see it, and Rules does see it: each change below is
+ * outside the rule with that number. It is run from the project's folder.
+ */
 public final class SourceTest {
     private static final Expect EXPECT = new Expect();
-    /** Words that the class can do without, with the number of the rule that bounds them. */
-    private static final String[] WITHOUT = {
-        "\\bpackage\\b", "->", "::", "\\bcatch\\b", "\\bthrow\\b", "\\bfinally\\b", "\\bsynchronized\\b", "\\bassert\\b",
-        "\\bwhile\\b", "\\bdo\\b", "Exact\\b", "\\bSystem\\.(?!arraycopy)", "\\bMath\\.(?!min|max)", "\\bdouble\\b",
-        "static final float", "static final boolean\\[", "\\bprotected\\b", "\\bRandom\\b", "\\bThread\\b", "\\bvar\\b",
-        "\\bhashCode\\b", "\\bequals\\b", "\\btoString\\b"};
+    private static final String[][] CHANGES = {
+        {"1", "public final class PauseRegions {", "public class PauseRegions {"},
+        {"1", "private static final class Row {", "private final class Row {"},
+        {"2", "reached = 0;", "reached = 0; Runnable later = () -> { };"},
+        {"2", "private static final class Reach {", "private static final class Reach extends Object {"},
+        {"3", "int reached;", "int reached; Integer boxed;"},
+        {"3", "final Heap[] past = new Heap[UNDO_MOST];", "final Heap[] past = new Heap[UNDO_MOST]; Heap[][] more;"},
+        {"3", "float longer = ", "double longest = 0.0; float longer = "},
+        {"4", "void enter(int t) {", "final boolean[] seen = new boolean[THINGS]; void f() { Arrays.fill(seen, false); } void enter(int t) {"},
+        {"4", "System.arraycopy(other.items, 0, items, 0, THINGS);", "System.arraycopy(new Heap[1], 0, new Heap[1], 0, 1);"},
+        {"4", "Math.min(known + 1, UNDO_MOST)", "Math.addExact(known, 1)"},
+        {"4", "Math.min(known + 1, UNDO_MOST)", "(int) Math.sqrt(known)"},
+        {"4", "import java.util.Arrays;", "import java.util.Arrays; import java.util.Random;"},
+        {"4", "known = 0;", "known = 0; System.gc();"},
+        {"5", "private static final int WHITE = 0", "private static int dark; private static final int WHITE = 0"},
+        {"5", "private static final int WHITE = 0", "static { } private static final int WHITE = 0"},
+        {"6", "known = 0;", "known = 0; throw new IllegalStateException();"},
+        {"6", "known = 0;", "try { known = 0; } catch (RuntimeException e) { known = 1; }"},
+        {"7", "next = (next + 1) % UNDO_MOST;", "next = (next + 1) % known;"},
+        {"7", "if (foundCells > 0) {", "if (foundCells >= 0) {"},
+        {"7", "if (choice.youngCells > 0) {", "if (foundCells > 0) {"},
+        {"7", "final int[] far = new int[THINGS];", "int far0; final int[] far = new int[far0];"},
+        {"8", "int thingsIn(int r) {", "int thingsIn(int r) { if (r < 0) { return thingsIn(0); }"},
+        {"8", "boolean isThere(int t) {", "boolean isThere(int t) { if (t < 0) { return isIn(0, 0); }"},
+        {"9", "int sum = 0; for (int t = 0; t < THINGS; t++) { if (isThere(t)) {", "int sum = 0; while (true) { if (isThere(sum)) {"},
+        {"9", "for (int i = 0; i < k && i < THINGS; i++) {", "for (int i = 0; i < k && i < THINGS; i++) { i = 0;"},
+        {"9", "for (int i = 0; i < k && i < THINGS; i++) {", "for (int i = 0; i < k && i < THINGS; ) {"},
+        {"9", "for (int i = 0; i < k && i < THINGS; i++) {", "for (int i = 0; t != k; i++) {"},
+        {"9", "for (int i = 0; i < THINGS && i < waiting.length; i++) {", "for (int i = 0; i < waiting.length; i++) {"},
+        {"11", "void forget() {", "void forget(int a, int b, int c, int d, int e, int f, int g, int h) {"},
+        {"11", "private static int cardOf(int region, int cell) {", "private static int a(int x) { return b(x); } "
+            + "private static int b(int x) { return x; } private static int cardOf(int region, int cell) { a(cell);"},
+        {"12", "reached = 0;", "reached = 0; Row other = new Row();"},
+        {"12", "reached = 0;", "reached = 0; int[] other = new int[1];"},
+    };
 
     public static void main(String[] args) throws IOException {
-        List<String> lines = Files.readAllLines(Path.of("src/main/java/PauseRegions.java"));
-        EXPECT.part("the rules");
-        int classes = 0;
-        int start = -1;
-        for (int i = 0; i < lines.size(); i++) {
-            String code = withoutRemarks(lines.get(i));
-            for (String word : WITHOUT) {
-                EXPECT.isTrue("line " + (i + 1) + " is without " + word, !Pattern.compile(word).matcher(code).find());
-            }
-            EXPECT.isTrue("line " + (i + 1) + " is plain", code.chars().allMatch(c -> c >= 32 && c < 127));
-            if (code.startsWith("import ")) {
-                EXPECT.isTrue(code, code.equals("import java.util.Arrays;"));
-            }
-            classes += Pattern.compile("\\bclass\\b").matcher(code).find() ? 1 : 0;
-            boolean opens = Pattern.compile("^ {4,8}[\\w\\[\\] ]+\\(.*\\) \\{$").matcher(code).find();
-            if (opens) {
-                start = i;
-                EXPECT.isTrue(code + " has at most seven parameters", parameters(code) <= 7);
-            }
-            if (start >= 0 && code.equals(indent(lines.get(start)) + "}")) {
-                EXPECT.isTrue(lines.get(start).trim() + " has at most 60 lines", i - start < 60);
-                start = -1;
-            }
+        String source = Files.readString(Path.of("src/main/java/PauseRegions.java"));
+        EXPECT.part("the class");
+        List<String> faults = Rules.faultsOf(source);
+        faults.forEach(EXPECT::tellWrong);
+        EXPECT.due("faults", faults.size(), 0);
+        String plain = BrokenCopy.plain(source);
+        for (String[] change : CHANGES) {
+            EXPECT.part("a copy with " + change[2]);
+            EXPECT.isTrue("the class has: " + change[1], plain.contains(change[1]));
+            List<String> found = Rules.faultsOf(plain.replace(change[1], change[2]));
+            EXPECT.isTrue("a fault by rule " + change[0] + " in " + found,
+                found.stream().anyMatch(fault -> fault.startsWith("rule " + change[0] + ":")));
         }
-        EXPECT.isTrue("at most twelve classes", classes <= 12);
         EXPECT.end();
-    }
-
-    private static String withoutRemarks(String line) {
-        String trimmed = line.trim();
-        if (trimmed.startsWith("/**") || trimmed.startsWith("*")) {
-            return "";
-        }
-        int at = line.indexOf("//");
-        return at < 0 ? line : line.substring(0, at);
-    }
-
-    private static int parameters(String head) {
-        Matcher inside = Pattern.compile("\\((.*)\\) \\{$").matcher(head);
-        return inside.find() && !inside.group(1).isEmpty() ? inside.group(1).split(",").length : 0;
-    }
-
-    private static String indent(String line) {
-        return line.substring(0, line.length() - line.stripLeading().length());
     }
 }
